@@ -78,7 +78,6 @@ public final class FootKeeper {
             return FULL;
         }
         shooters[number] = newShooter(kind, number, v);
-        now.begin(number);
         now.shooters = number + 1;
         return number;
     }
@@ -404,11 +403,10 @@ public final class FootKeeper {
         if (!isDraw(draw)) {
             return BAD;
         }
-        if (now.bookShooters.isFull() || now.bookDraws.isFull()) {
+        if (!now.bookShooters.add(shooter)) {
             return FULL;
         }
         now.bookDraws.add(draw);
-        now.bookShooters.add(shooter);
         return now.bookShooters.size;
     }
 
@@ -436,9 +434,6 @@ public final class FootKeeper {
         }
         if (sorts[tape] != NONE && sorts[tape] != BYTES) {
             return CAST;
-        }
-        if (now.shooters < 1) {
-            return NONE_FOUND;
         }
         for (int k = 0; k < now.shooters; k++) {
             // i is held against the row first, so that i + k cannot wrap around
@@ -1106,6 +1101,7 @@ public final class FootKeeper {
         Table() {
             holding = NONE;
             lasts = new int[MOST_SHOOTERS];
+            Arrays.fill(lasts, NO_LAST);
             ownShots = new int[MOST_SHOOTERS];
             ownGoals = new int[MOST_SHOOTERS];
             toldSides = new int[MOST_SHOOTERS * TOLD_PARTS];
@@ -1115,20 +1111,10 @@ public final class FootKeeper {
             bookDraws = new Row(MOST_BOOK);
         }
 
-        /** What was there of a shooter of this number, whom undo() took away, is gone. */
-        void begin(int number) {
-            if (number < 0 || number >= lasts.length) {
-                return;
-            }
-            lasts[number] = NO_LAST;
-            ownShots[number] = 0;
-            ownGoals[number] = 0;
-            for (int part = 0; part < TOLD_PARTS; part++) {
-                setTold(number, part, LEFT);
-            }
-        }
-
-        /** What shots change and what they hang on. */
+        /**
+         * What shots change and what they hang on. Those who are not there come along: their places
+         * are as at first in every table, so that a shooter who comes after undo() finds them so.
+         */
         void takeRound(Table from) {
             shots = from.shots;
             goals = from.goals;
@@ -1201,10 +1187,6 @@ public final class FootKeeper {
 
         Row(int most) {
             items = new int[Math.max(0, most)];
-        }
-
-        boolean isFull() {
-            return size >= items.length;
         }
 
         boolean add(int item) {

@@ -446,6 +446,13 @@ public final class PromiseTests {
         due("7: full again", x.ground(), FULL);
         due("7: the sixth holds", x.of(0, 10), 15);
         due("7: six", x.count(1), 6);
+        FootKeeper z = new FootKeeper();
+        for (int i = 0; i < 12; i++) {
+            due("7: many faults", ground(z, "in 5 " + "p=1&".repeat(20)), -95);
+        }
+        due("7: a ground after many faults", ground(z, "in 5 " + "p<9&".repeat(20) + "p<9"), 0);
+        z.shooter(0, 0);
+        due("7: it holds", z.of(0, 10), 5);
         FootKeeper y = new FootKeeper();
         due("7: a hundred bytes", ground(y, "in 1 p<1;in 1 p<1;in 1 p<1;in 1 p<1;in 1 p<1;in 1 p<1;"
                 + "in 1 p<1;in 1 p<1;in 1 p<1;in 11 p=11|p=11&p<1"), 0);
@@ -680,6 +687,17 @@ public final class PromiseTests {
         for (int k = 0; k < 4; k++) {
             due("16: each at its place", y.order(k), want[k]);
         }
+        FootKeeper w = withGround("in 90 a<2&p<1;in 30 p>0;in 40 a>2&p>0;save 0 p<9");
+        for (int i = 0; i < 4; i++) {
+            w.shooter(0, 0);
+            w.line(i);
+        }
+        long above = w.likely(3, 0);
+        // three of four must be in: the one with 90 goes ahead, the others have 30, 30 and then 70
+        for (int k = 0; k < 4; k++) {
+            due("16: three of four", w.order(k), k);
+        }
+        due("16: likely goes by THE ROW as told", w.likely(3, 0), above);
         FootKeeper z = withGround("in 60 a=1&p=1;in 50 p=0;save 0 p<9");
         z.shooter(0, 0);
         z.shooter(0, 0);
@@ -959,6 +977,13 @@ public final class PromiseTests {
         due("28: tape", x.judge(6, 0), NONE);
         due("28: tape below", x.judge(-1, 0), NONE);
         due("28: nobody, nothing", x.judge(0, 0), -5);
+        due("28: nobody, place below", x.judge(0, -1), -5);
+        bytes(x, 2, 3);
+        due("28: nobody, a row", x.judge(2, 0), -5);
+        x.shooter(0, 0);
+        due("28: one", x.judge(2, 0), -5);
+        due("28: one, behind the end", x.judge(2, 1), 100);
+        x = new FootKeeper();
         x.tape(1, 1, 5);
         due("28: another sort ahead of nobody", x.judge(1, 0), CAST);
         x.shooter(0, 0);
