@@ -696,31 +696,36 @@ public final class FootKeeper {
 
     /** From the k-th of the line on, with so many in already, by so many of the draws so far. */
     private void spread(int k, int in, long weight) {
-        if (k >= now.line.size || k >= places.length) {
+        if (k < 0 || k >= now.line.size || k >= places.length) {
             if (in >= 0 && in < chances.length) {
                 chances[in] += weight;
             }
             return;
         }
         Shooter one = find(now.line.at(places[k]));
-        if (one == null || k + 1 >= then.length) {
+        if (one == null || k >= then.length) {
             return;
         }
-        Table before = then[k];
-        Table after = then[k + 1];
-        look(before, one);
-        int side = one.side(view, before);
+        look(then[k], one);
+        int side = one.side(view, then[k]);
+        // Those behind fill the view anew, so what is to be known of it is taken ahead of them
         int chance = view.chanceBy(side, view.note);
         if (chance > 0) {
-            after.takeRound(before);
-            after.addShot(one.number, side, true);
-            spread(k + 1, in + 1, weight * chance);
+            goOn(k, one.number, side, true, in + 1, weight * chance);
         }
         if (chance < DRAWS) {
-            after.takeRound(before);
-            after.addShot(one.number, side, false);
-            spread(k + 1, in, weight * (DRAWS - chance));
+            goOn(k, one.number, side, false, in, weight * (DRAWS - chance));
         }
+    }
+
+    /** The k-th shot has been; with it so many are in, and those behind go on from there. */
+    private void goOn(int k, int number, int side, boolean isIn, int in, long weight) {
+        if (k < 0 || k + 1 >= then.length) {
+            return;
+        }
+        then[k + 1].takeRound(then[k]);
+        then[k + 1].addShot(number, side, isIn);
+        spread(k + 1, in, weight);
     }
 
     private void chooseOrder(int n) {
@@ -1370,7 +1375,7 @@ public final class FootKeeper {
 
         private boolean unit(Row text, int depth) {
             if (depth < MOST_NESTED && skip(text, '!')) {
-                return unit(text, depth + 1) && addStep(NOT);
+                return negated(text, depth + 1);
             }
             if (depth < MOST_NESTED && skip(text, '(')) {
                 return either(text, depth + 1) && skip(text, ')');
@@ -1379,6 +1384,10 @@ public final class FootKeeper {
             int relation = letter == NONE ? NONE : oneOf(text, RELATIONS);
             int number = relation == NONE ? NONE : number(text);
             return number != NONE && addStep((letter * 3 + relation) * 100 + number);
+        }
+
+        private boolean negated(Row text, int depth) {
+            return unit(text, depth) && addStep(NOT);
         }
 
         private int oneOf(Row text, String signs) {

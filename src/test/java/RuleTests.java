@@ -6,8 +6,10 @@ import java.lang.reflect.Modifier;
 import java.nio.file.Files;
 import java.nio.file.Path;
 import java.util.Arrays;
+import java.util.List;
 import java.util.Set;
 import java.util.TreeSet;
+import java.util.function.Supplier;
 import java.util.regex.Matcher;
 import java.util.regex.Pattern;
 
@@ -134,9 +136,9 @@ public final class RuleTests {
     }
 
     /** A method ends with the brace that stands as far in as its head. */
-    private static void lengths(String source) {
+    private static void methods(String source) {
         String[] lines = source.split("\n");
-        Pattern head = Pattern.compile("^( {4}| {8})(?! )[^=;]*\\)\\s*\\{$");
+        Pattern head = Pattern.compile("^( {4}| {8})(?! |if |for |while |switch |do |\\})[^=;]*\\)\\s*\\{$");
         for (int i = 0; i < lines.length; i++) {
             Matcher m = head.matcher(lines[i]);
             if (m.matches()) {
@@ -145,6 +147,52 @@ public final class RuleTests {
                     end++;
                 }
                 must(end - i + 1 <= 60, "sixty lines at most: " + lines[i]);
+                String name = lines[i].replaceAll("\\(.*", "").replaceAll(".* ", "");
+                String body = String.join("\n", Arrays.copyOfRange(lines, i + 1, end));
+                // Rule 8: a method that calls itself is private and static; others call one another
+                boolean itself = Pattern.compile("(?<![.\\w])" + name + "\\(").matcher(body).find();
+                must(!itself || lines[i].contains("private static"), "no method that calls itself: " + lines[i]);
+            }
+        }
+    }
+
+    /** What is called with, ahead of all: the ends of int and the edges of what the document tells. */
+    private static final int[] FEW = {Integer.MIN_VALUE, -1, 0, 1, 3, 60, 61, Integer.MAX_VALUE};
+    private static final int[] MANY = {Integer.MIN_VALUE, Integer.MIN_VALUE + 1, -1001, -14, -2, -1, 0, 1, 2, 3, 4, 5, 6, 7, 9,
+        10, 12, 13, 20, 22, 23, 59, 60, 61, 99, 100, 101, 127, 128, Integer.MAX_VALUE - 1, Integer.MAX_VALUE};
+
+    /** No call throws, whatever it is called with, on an empty, a common and a full object. */
+    private static void neverThrows() {
+        List<Supplier<FootKeeper>> made = List.of(FootKeeper::new, NothingChangesTests::some, HostTests::full);
+        for (Method m : FootKeeper.class.getDeclaredMethods()) {
+            if (Modifier.isPublic(m.getModifiers())) {
+                for (Supplier<FootKeeper> how : made) {
+                    callWithAll(m, how);
+                }
+            }
+        }
+    }
+
+    private static void callWithAll(Method m, Supplier<FootKeeper> made) {
+        int n = m.getParameterCount();
+        int[] of = n < 3 ? MANY : FEW;
+        int ways = 1;
+        for (int i = 0; i < n; i++) {
+            ways *= of.length;
+        }
+        FootKeeper x = made.get();
+        for (int way = 0; way < ways; way++) {
+            // an object lives for 512 calls, some of which went into making it
+            x = way % 300 == 299 ? made.get() : x;
+            Object[] with = new Object[n];
+            for (int i = 0, rest = way; i < n; i++, rest /= of.length) {
+                int v = of[rest % of.length];
+                with[i] = m.getParameterTypes()[i] == long.class ? (Object) ((long) v << v) : (Object) v;
+            }
+            try {
+                m.invoke(x, with);
+            } catch (ReflectiveOperationException e) {
+                must(false, "no call throws: " + m.getName() + Arrays.toString(with) + " " + e.getCause());
             }
         }
     }
@@ -164,7 +212,8 @@ public final class RuleTests {
         face();
         shapes();
         words(source);
-        lengths(source);
+        methods(source);
+        neverThrows();
         apart();
         System.out.println(wrong == 0 ? "the rules are kept" : wrong + " rules are not kept");
         if (wrong != 0) {
