@@ -26,6 +26,9 @@ public final class RuleTests {
         "long read(int,int)", "int shift(int,int,int,int,int)",
     };
     private static final Path SOURCE = Path.of("src/main/java/FootKeeper.java");
+    /** The line a method begins with: of the class itself or of one inside it. */
+    private static final Pattern HEAD =
+            Pattern.compile("^( {4}| {8})(?! |if |for |while |switch |do |\\})[^=;]*\\)\\s*\\{$");
     private static int wrong;
 
     private RuleTests() {
@@ -133,14 +136,25 @@ public final class RuleTests {
         absent(code, "\\b(static|private|final)\\s*\\{");
         absent(code, "\\bwhile\\s*\\(true\\)|for\\s*\\(;;\\)");
         absent(code, "\\b(float|double)\\b");
+        absent(code, "\"\"\\s*\\+|\\+\\s*\"\"");
+    }
+
+    /** Rule 12 and the room that all calls share: but for a new shooter, only constructors make anything. */
+    private static void making(String source) {
+        Pattern maker = Pattern.compile("^ +(public )?[A-Z]\\w*\\(.*|.* newShooter\\(.*");
+        String at = "";
+        for (String line : bare(source).split("\n")) {
+            at = HEAD.matcher(line).matches() ? line : at;
+            boolean makes = Pattern.compile("\\bnew\\b|\\.(clone|toCharArray|substring|copyOf\\w*)\\(").matcher(line).find();
+            must(!makes || maker.matcher(at).matches(), "made in a constructor: " + at + line);
+        }
     }
 
     /** A method ends with the brace that stands as far in as its head. */
     private static void methods(String source) {
         String[] lines = source.split("\n");
-        Pattern head = Pattern.compile("^( {4}| {8})(?! |if |for |while |switch |do |\\})[^=;]*\\)\\s*\\{$");
         for (int i = 0; i < lines.length; i++) {
-            Matcher m = head.matcher(lines[i]);
+            Matcher m = HEAD.matcher(lines[i]);
             if (m.matches()) {
                 int end = i;
                 while (end < lines.length && !lines[end].equals(m.group(1) + "}")) {
@@ -213,6 +227,7 @@ public final class RuleTests {
         shapes();
         words(source);
         methods(source);
+        making(source);
         neverThrows();
         apart();
         System.out.println(wrong == 0 ? "the rules are kept" : wrong + " rules are not kept");
